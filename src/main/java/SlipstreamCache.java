@@ -449,21 +449,30 @@ public final class SlipstreamCache {
         choice.clear();
         // An entry of the key itself has the same size, so that nothing is lacking beside it.
         int lacking = memory.present[key] ? 0 : memory.filled + keys.sizes[key] - ROOM;
+        if (lacking > 0) {
+            noteWorths();
+        }
         for (int tries = 0; tries < KEYS && lacking > 0; tries++) {
-            int leaver = nextLeaver(key);
+            int leaver = nextLeaver();
             if (leaver == NONE) {
                 return false;
             }
-            choice.add(leaver, worth(leaver));
+            choice.add(leaver);
             lacking -= keys.sizes[leaver];
         }
         return lacking <= 0;
     }
 
-    private int nextLeaver(int comer) {
+    private void noteWorths() {
+        for (int key = 0; key < KEYS; key++) {
+            choice.worths[key] = worth(key);
+        }
+    }
+
+    private int nextLeaver() {
         int best = NONE;
         for (int key = 0; key < KEYS; key++) {
-            boolean mayGo = memory.present[key] && !pledges.waiting[key] && key != comer && !choice.chosen[key];
+            boolean mayGo = memory.present[key] && !pledges.waiting[key] && !choice.chosen[key];
             if (mayGo && (best == NONE || leavesBefore(key, best))) {
                 best = key;
             }
@@ -472,12 +481,12 @@ public final class SlipstreamCache {
     }
 
     private boolean leavesBefore(int key, int other) {
-        int difference = worth(key) - worth(other);
+        int difference = choice.worths[key] - choice.worths[other];
         return difference < 0 || difference == 0 && memory.usedAt[key] < memory.usedAt[other];
     }
 
     private boolean comeIfWorthIt(int key) {
-        if (!chooseLeavers(key) || choice.count > 0 && choice.worth >= worth(key)) {
+        if (!chooseLeavers(key) || choice.count > 0 && choice.sum >= worth(key)) {
             return false;
         }
         come(key);
@@ -981,27 +990,28 @@ public final class SlipstreamCache {
         }
     }
 
-    /** Keys chosen one after another; made once, so that no call makes anything. */
+    /** Keys chosen one after another, with the sum of their worths; made once, so that no call makes anything. */
     private static final class Choice {
         final boolean[] chosen = new boolean[KEYS];
+        final int[] worths = new int[KEYS];
         final int[] order = new int[KEYS];
         int count = 0;
-        int worth = 0;
+        int sum = 0;
 
         void clear() {
             count = 0;
-            worth = 0;
+            sum = 0;
             for (int key = 0; key < KEYS; key++) {
                 chosen[key] = false;
             }
         }
 
-        void add(int key, int keyWorth) {
+        void add(int key) {
             if (count < KEYS) {
                 chosen[key] = true;
                 order[count] = key;
                 count++;
-                worth += keyWorth;
+                sum += worths[key];
             }
         }
     }

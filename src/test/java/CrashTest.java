@@ -12,6 +12,10 @@ public final class CrashTest {
         comingAgainByMinute();
         comingAgainPassesOver();
         leavingBehindRecovery();
+        ringOfSlots();
+        ringEndsWithMark();
+        comingWithoutWorth();
+        keyZeroIsLostToo();
         oldNumberUnderAnotherGroup();
         Check.end("CrashTest");
     }
@@ -241,6 +245,69 @@ public final class CrashTest {
         Check.slots(x, 1, 100, -1, -1, -1);
         x.drop(0);
         Check.slots(x, 1, 100, -1, -1, -1);
+    }
+
+    private static int[] times(int count, int number) {
+        int[] numbers = new int[count];
+        java.util.Arrays.fill(numbers, number);
+        return numbers;
+    }
+
+    private static void ringOfSlots() {
+        SlipstreamCache x = withManyInFlash(times(16, 4), times(16, 1), 0);
+        Check.slots(x, 3, 12, 13, 14, 15);
+        x.crash();
+        Check.due(16, x.recover());
+        Check.due('m', x.where(0));
+        SlipstreamCache y = withManyInFlash(times(17, 4), times(17, 1), 0);
+        Check.slots(y, 0, 16, -1, -1, -1);
+        Check.due(2, y.wear(0));
+        Check.due('-', y.where(0));
+        Check.due('-', y.where(3));
+        Check.due('f', y.where(4));
+        Check.due('f', y.where(15));
+        y.crash();
+        Check.due(13, y.recover());
+        Check.due('-', y.where(3));
+        Check.due('m', y.where(4));
+        Check.due('f', y.where(16));
+    }
+
+    /** The mark has the greatest number, though its slot stands ahead of the one with the least. */
+    private static void ringEndsWithMark() {
+        SlipstreamCache x = withManyInFlash(times(15, 4), times(15, 1), 0);
+        Check.due(true, x.drop(0));
+        Check.slots(x, 3, 12, 13, 14, 100);
+        x.crash();
+        Check.due(14, x.recover());
+        Check.due('-', x.where(0));
+    }
+
+    private static void comingWithoutWorth() {
+        SlipstreamCache x = withManyInFlash(times(4, 4), times(4, 1), 0);
+        x.crash();
+        Check.due(4, x.recover());
+        x.drop(1);
+        // There is room, so that the worth 0 does not matter.
+        Check.due(0, x.estimate(3));
+        Check.due('f', x.get(3, 0, 0));
+        Check.due('m', x.where(3));
+        Check.slots(x, 1, 101, 103, -1, -1);
+    }
+
+    private static void keyZeroIsLostToo() {
+        SlipstreamCache x = new SlipstreamCache();
+        x.get(0, 0, 0);
+        x.crash();
+        Check.due('x', x.leaseState(0));
+        x.recover();
+        Check.load(x, 0);
+        Check.due(1, x.crash());
+        Check.due('-', x.where(0));
+        x.recover();
+        Check.due('-', x.where(0));
+        Check.due('i', Check.load(x, 0));
+        Check.due(1, x.used());
     }
 
     /** A key may have left the index by its group's number alone, and then be told of another group. */

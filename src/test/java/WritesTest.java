@@ -11,6 +11,8 @@ public final class WritesTest {
         promisedWritesAreLimited();
         drop();
         bump();
+        bumpMakesLeasesVoid();
+        writesAreUses();
         pass();
         passEnds();
         passWhenDown();
@@ -279,6 +281,41 @@ public final class WritesTest {
         Check.throwing(IndexOutOfBoundsException.class, () -> x.bump(4));
         x.recover();
         Check.due(2, x.bump(0));
+    }
+
+    private static void bumpMakesLeasesVoid() {
+        SlipstreamCache x = new SlipstreamCache();
+        for (int key = 0; key < 32; key++) {
+            x.setKey(key, 1, 1, key % 2);
+            x.get(key, 0, 0);
+        }
+        x.bump(0);
+        for (int key = 0; key < 32; key++) {
+            Check.due(key % 2 == 0 ? 'x' : 'o', x.leaseState(key));
+        }
+    }
+
+    /** A write through the cache is a use, one around it is none. */
+    private static void writesAreUses() {
+        SlipstreamCache x = new SlipstreamCache();
+        for (int key = 0; key < 3; key++) {
+            x.setKey(key, 4, 1, 0);
+            Check.load(x, key);
+        }
+        x.write(0, 1, 't');
+        x.write(1, 1, 'a');
+        x.write(9, 1, 'b');
+        Check.due('m', x.where(0));
+        Check.due('-', x.where(1));
+        Check.due('m', x.where(2));
+        x.drop(9);
+        Check.load(x, 1);
+        x.write(2, 1, 'b');
+        x.write(2, 2, 't');
+        x.write(9, 1, 'b');
+        Check.due('-', x.where(0));
+        Check.due('m', x.where(1));
+        Check.due('m', x.where(2));
     }
 
     /** Promise 13. */
