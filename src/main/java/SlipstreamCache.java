@@ -449,8 +449,8 @@ public final class SlipstreamCache {
         choice.clear();
         // An entry of the key itself has the same size, so that nothing is lacking beside it.
         int lacking = memory.present[key] ? 0 : memory.filled + keys.sizes[key] - ROOM;
-        if (lacking > 0) {
-            noteWorths();
+        for (int other = 0; other < KEYS && lacking > 0; other++) {
+            choice.worths[other] = worth(other);
         }
         for (int tries = 0; tries < KEYS && lacking > 0; tries++) {
             int leaver = nextLeaver();
@@ -461,12 +461,6 @@ public final class SlipstreamCache {
             lacking -= keys.sizes[leaver];
         }
         return lacking <= 0;
-    }
-
-    private void noteWorths() {
-        for (int key = 0; key < KEYS; key++) {
-            choice.worths[key] = worth(key);
-        }
     }
 
     private int nextLeaver() {

@@ -147,39 +147,10 @@ public final class CrashTest {
         Check.due(0, y.used());
     }
 
-    /** Fills the flash, key by key, by promises that push the loaded keys out. */
-    private static SlipstreamCache withManyInFlash(int[] sizes, int[] costs, int minutesBetween) {
-        SlipstreamCache x = new SlipstreamCache();
-        x.setKey(29, 4, 1, 0);
-        x.setKey(30, 4, 1, 0);
-        x.setKey(31, 4, 1, 0);
-        for (int key = 0; key < sizes.length; key++) {
-            x.setKey(key, sizes[key], costs[key], 0);
-            Check.miss(x, key, 2);
-            Check.due('i', readAndFillLast(x));
-            for (int pusher = 29; pusher <= 31; pusher++) {
-                x.write(pusher, 1, 'b');
-            }
-            Check.due('f', x.where(key));
-            x.drop(29);
-            x.drop(30);
-            x.drop(31);
-            if (minutesBetween > 0) {
-                x.pass(minutesBetween);
-            }
-        }
-        return x;
-    }
-
-    private static char readAndFillLast(SlipstreamCache x) {
-        x.read(x.lease());
-        return x.fill(x.lease());
-    }
-
     private static void comingAgainByCost() {
         int[] sizes = {4, 4, 4, 4, 4};
         int[] costs = {1, 5, 5, 7, 5};
-        SlipstreamCache x = withManyInFlash(sizes, costs, 0);
+        SlipstreamCache x = Check.flashOf(sizes, costs, 0);
         x.crash();
         Check.due(5, x.recover());
         // 3 by its cost, then 1 and 2 by their keys, as all were read in the same minute.
@@ -193,7 +164,7 @@ public final class CrashTest {
     private static void comingAgainByMinute() {
         int[] sizes = {4, 4, 4, 4, 4};
         int[] costs = {2, 1, 1, 1, 1};
-        SlipstreamCache x = withManyInFlash(sizes, costs, 1);
+        SlipstreamCache x = Check.flashOf(sizes, costs, 1);
         x.crash();
         Check.due(5, x.recover());
         Check.due('m', x.where(0));
@@ -206,7 +177,7 @@ public final class CrashTest {
     private static void comingAgainPassesOver() {
         int[] sizes = {4, 4, 3, 2, 1};
         int[] costs = {9, 8, 7, 6, 5};
-        SlipstreamCache x = withManyInFlash(sizes, costs, 0);
+        SlipstreamCache x = Check.flashOf(sizes, costs, 0);
         x.crash();
         Check.due(5, x.recover());
         Check.due('m', x.where(0));
@@ -221,7 +192,7 @@ public final class CrashTest {
     private static void leavingBehindRecovery() {
         int[] sizes = {4, 4, 4};
         int[] costs = {1, 2, 3};
-        SlipstreamCache x = withManyInFlash(sizes, costs, 0);
+        SlipstreamCache x = Check.flashOf(sizes, costs, 0);
         x.crash();
         Check.due(3, x.recover());
         Check.due(12, x.used());
@@ -247,19 +218,13 @@ public final class CrashTest {
         Check.slots(x, 1, 100, -1, -1, -1);
     }
 
-    private static int[] times(int count, int number) {
-        int[] numbers = new int[count];
-        java.util.Arrays.fill(numbers, number);
-        return numbers;
-    }
-
     private static void ringOfSlots() {
-        SlipstreamCache x = withManyInFlash(times(16, 4), times(16, 1), 0);
+        SlipstreamCache x = Check.flashOf(16);
         Check.slots(x, 3, 12, 13, 14, 15);
         x.crash();
         Check.due(16, x.recover());
         Check.due('m', x.where(0));
-        SlipstreamCache y = withManyInFlash(times(17, 4), times(17, 1), 0);
+        SlipstreamCache y = Check.flashOf(17);
         Check.slots(y, 0, 16, -1, -1, -1);
         Check.due(2, y.wear(0));
         Check.due('-', y.where(0));
@@ -275,7 +240,7 @@ public final class CrashTest {
 
     /** The mark has the greatest number, though its slot stands ahead of the one with the least. */
     private static void ringEndsWithMark() {
-        SlipstreamCache x = withManyInFlash(times(15, 4), times(15, 1), 0);
+        SlipstreamCache x = Check.flashOf(15);
         Check.due(true, x.drop(0));
         Check.slots(x, 3, 12, 13, 14, 100);
         x.crash();
@@ -284,7 +249,7 @@ public final class CrashTest {
     }
 
     private static void comingWithoutWorth() {
-        SlipstreamCache x = withManyInFlash(times(4, 4), times(4, 1), 0);
+        SlipstreamCache x = Check.flashOf(4);
         x.crash();
         Check.due(4, x.recover());
         x.drop(1);
