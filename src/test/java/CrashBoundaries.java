@@ -23,11 +23,13 @@ final class CrashBoundaries {
         markTakesOut();
         oldNumbers();
         oldNumberOverAnOlderSlot();
+        newestSlotHasAnOldNumber();
         comingUpToTheRoom();
         comingByCost();
         comingByMinute();
         comingByKey();
         passedOver();
+        comingIsUse();
         nextSlotGoesOn();
         severalCrashes();
     }
@@ -297,6 +299,36 @@ final class CrashBoundaries {
         Check.due('-', x.where(0));
     }
 
+    /** A reading: an older slot does not come in the place of the newest one, though its number is the present one. */
+    private static void newestSlotHasAnOldNumber() {
+        Check.sentence(15, "A key has at most one slot in the index, the one written last.");
+        SlipstreamCache x = Check.flashOf(1);
+        x.bump(0);
+        x.crash();
+        Check.due(0, x.recover());
+        x.setKey(0, 4, 1, 1);
+        x.bump(1);
+        Check.miss(x, 0, 2);
+        Check.readAndFill(x, x.lease(), 'i');
+        Check.push(x);
+        Check.slots(x, 0, 0, 0, -1, -1);
+        x.bump(1);
+        x.crash();
+        Check.due(0, x.recover());
+        // The group 2 has the number 0 yet, as the older slot has.
+        x.setKey(0, 4, 1, 2);
+        x.crash();
+        Check.due(0, x.recover());
+        Check.due('-', x.where(0));
+        Check.sentence(15, "entries whose number of the group is not the present one are not in the index");
+        x.bump(2);
+        x.crash();
+        Check.due(1, x.recover());
+        Check.due('m', x.where(0));
+        x.get(0, 0, 0);
+        Check.due(0, x.value());
+    }
+
     private static void comingUpToTheRoom() {
         Check.sentence(15, "third, the keys in the index come to the memory as long as there is room");
         int[] sizes = {4, 4, 4, 1};
@@ -364,6 +396,22 @@ final class CrashBoundaries {
             Check.due(places[key], x.where(key));
         }
         Check.due(12, x.used());
+    }
+
+    /** A reading: they come one behind the other, so that the first of them was used longest ago. */
+    private static void comingIsUse() {
+        Check.sentence(15, "An entry is used when it comes");
+        SlipstreamCache x = Check.flashOf(Check.times(3, 4), new int[] {1, 9, 5}, 0);
+        x.crash();
+        Check.due(3, x.recover());
+        int[] going = {1, 2, 0};
+        for (int step = 0; step < 3; step++) {
+            Check.due('m', x.where(going[step]));
+            x.setKey(9 + step, 4, 1, 0);
+            Check.due('i', Check.load(x, 9 + step));
+            Check.due('f', x.where(going[step]));
+            Check.due(12, x.used());
+        }
     }
 
     private static void nextSlotGoesOn() {

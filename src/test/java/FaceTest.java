@@ -19,6 +19,8 @@ public final class FaceTest {
         faceIsThatOfTheDocument();
         otherMembersArePrivate();
         sourceKeepsToTheLanguage(Files.readString(SOURCE));
+        callsMakeNothing(Files.readString(SOURCE).split("\n"));
+        methodsAreShort(Files.readString(SOURCE).split("\n"));
         Check.end("FaceTest");
     }
 
@@ -79,7 +81,45 @@ public final class FaceTest {
         Check.due(true, inside.length <= 12);
         for (Class<?> one : inside) {
             Check.due(true, Modifier.isStatic(one.getModifiers()) && !Modifier.isPublic(one.getModifiers()));
+            staysSmall(one);
         }
+        staysSmall(SlipstreamCache.class);
+    }
+
+    private static void staysSmall(Class<?> one) {
+        Check.due(true, Arrays.stream(one.getDeclaredFields())
+                .filter(field -> !Modifier.isStatic(field.getModifiers())).count() <= 20);
+        for (Method method : one.getDeclaredMethods()) {
+            Check.due(true, method.getParameterCount() <= 7);
+        }
+    }
+
+    /** Rows are made by the constructors alone, so that no call makes an object, but for what it throws. */
+    private static void callsMakeNothing(String[] lines) {
+        for (String line : lines) {
+            boolean isInConstructor = line.matches("            \\w+ = new int\\[length\\];");
+            boolean isField = line.matches(" {4,8}(private )?final \\w+(\\[\\])? \\w+ = new .*");
+            if (line.contains("new ") && !line.contains("throw new ") && !line.trim().startsWith("/")) {
+                Check.due(line + true, line + (isInConstructor || isField));
+            }
+        }
+    }
+
+    /** A method ends with the brace that stands as far in as it begins. */
+    private static void methodsAreShort(String[] lines) {
+        int methods = 0;
+        for (int at = 0; at < lines.length; at++) {
+            if (lines[at].matches(" {4,8}[a-z][^=;]* \\w+\\(.*") && !lines[at].trim().matches("(if|for|return|throw) .*")) {
+                String brace = lines[at].replaceAll("\\S.*", "") + "}";
+                int end = at;
+                while (end < lines.length - 1 && !lines[end].equals(brace)) {
+                    end++;
+                }
+                methods++;
+                Check.due(lines[at] + true, lines[at] + (end - at < 60));
+            }
+        }
+        Check.due(true, methods > 31);
     }
 
     private static void sourceKeepsToTheLanguage(String source) {
